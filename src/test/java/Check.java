@@ -26,6 +26,15 @@ final class Check {
         judge(what, thrownBy(call) == null, "a throw", "nothing thrown");
     }
 
+    /** Quiet if there is what the call names; otherwise the throw that the document tells of it. */
+    void quietIf(boolean there, String what, Call call) {
+        if (there) {
+            quiet(what, call);
+        } else {
+            throwsIndex(what, call);
+        }
+    }
+
     void throwsIndex(String what, Call call) {
         throwsOwn(what, call, ArrayIndexOutOfBoundsException.class);
     }
