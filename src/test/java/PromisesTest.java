@@ -483,16 +483,23 @@ public final class PromisesTest {
 
     // Promise 9
 
+    // An object of its own for each, for one answers 512 calls and confusedOfTwo makes half of them.
     private static void confusedCountsTheLatestMaking() {
         SignTeller x = twoClassesConfused();
         x.make(0);
         confusedOfTwo("no rounds", x, 1, 1);
-        x.example(3);
-        x.feature(3, 0, 30);
-        x.feature(3, 1, 22);
-        confusedOfTwo("an example more, not made", x, 1, 1);
-        x.clear();
-        confusedOfTwo("cleared", x, 1, 1);
+
+        SignTeller more = twoClassesConfused();
+        more.make(0);
+        more.example(3);
+        more.feature(3, 0, 30);
+        more.feature(3, 1, 22);
+        confusedOfTwo("an example more, not made", more, 1, 1);
+
+        SignTeller cleared = twoClassesConfused();
+        cleared.make(0);
+        cleared.clear();
+        confusedOfTwo("cleared", cleared, 1, 1);
 
         SignTeller y = twoClassesConfused();
         y.make(20);
