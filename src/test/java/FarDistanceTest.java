@@ -1,4 +1,4 @@
-/** Distances beyond an int, and beyond a long: there the answer is the greatest long. */
+/** Distances beyond an int, and beyond a long, of either rank: there the answer is the greatest long. */
 public final class FarDistanceTest {
     // Found by a search: almost all of these are told wrongly in each of twenty rounds, so that a
     // weight rises to 3e13. The first number is the class. Each feature is given to the teller twice,
@@ -17,7 +17,22 @@ public final class FarDistanceTest {
 
     private static final Check CHECK = new Check();
 
+    // Two classes with a group of features each. Of a class's twenty examples eighteen lie midway
+    // between the two means in its own group, and in the other's one step beyond the middle, but for
+    // one feature that lies on the other's mean. That makes each of them a little nearer to the other
+    // class, whose weights in its group then rise; as both classes take turns, both rise together, to
+    // 2e15. The last two hold the means where they must be for the middle to be exact.
+    private static final int GROUP = 6;
+    private static final int TOLD_WRONGLY = 18;
+    private static final int OF_EACH = 20;
+
     public static void main(String[] args) {
+        onlyTheSecondIsBeyondALong();
+        bothAreBeyondALong();
+        CHECK.end();
+    }
+
+    private static void onlyTheSecondIsBeyondALong() {
         SignTeller x = new SignTeller(FEATURES - 1);
         PlainModel model = new PlainModel(FEATURES - 1);
         giveExamples(x, model);
@@ -36,7 +51,54 @@ public final class FarDistanceTest {
         CHECK.same("tell beyond a long", x.tell(1), model.tell(1));
         x.margin(100000);
         CHECK.same("a far lead is above every margin", x.tell(0), model.tell(0));
-        CHECK.end();
+    }
+
+    private static void bothAreBeyondALong() {
+        SignTeller x = new SignTeller(2 * GROUP - 1);
+        PlainModel model = new PlainModel(2 * GROUP - 1);
+        for (int i = 0; i < OF_EACH; i++) {
+            giveTurn(i, 0, x, model);
+            giveTurn(i, 1, x, model);
+        }
+        CHECK.same("make(20) in turns", x.make(20), model.make(20));
+        // The blank sign lies as far from the one class as from the other.
+        CHECK.same("both far: distance(0) of the blank sign", x.distance(0), Long.MAX_VALUE);
+        CHECK.same("both far: distance(1) of the blank sign", x.distance(1), Long.MAX_VALUE);
+        x.sign(0, 255);
+        model.sign(0, 255);
+        CHECK.same("both far: distance(0)", x.distance(0), Long.MAX_VALUE);
+        CHECK.same("both far: distance(1)", x.distance(1), Long.MAX_VALUE);
+        distancesAreAlike("the sign far from both", x, model);
+        // The lead is that of the distances, not of the answers, which are the same here.
+        x.margin(100000);
+        CHECK.same("both far: tell(0)", x.tell(0), 1);
+        CHECK.same("both far: tell(1)", x.tell(1), 0);
+        CHECK.sameReal("both far: weight(0, 0)", x.weight(0, 0), model.weight(0, 0));
+        CHECK.sameReal("both far: weight(1, 0)", x.weight(1, 0), model.weight(1, 0));
+    }
+
+    // A zero is not given, for all features are 0 at first, and the test comes near the object's 512 calls.
+    private static void giveTurn(int i, int cls, SignTeller x, PlainModel model) {
+        int e = x.example(cls);
+        CHECK.same("example", e, model.example(cls));
+        for (int f = 0; f < 2 * GROUP; f++) {
+            int v = valueInTurn(i, cls, f);
+            if (v != 0) {
+                x.feature(e, f, v);
+                model.feature(e, f, v);
+            }
+        }
+    }
+
+    private static int valueInTurn(int i, int cls, int f) {
+        boolean own = f / GROUP == cls;
+        if (i >= TOLD_WRONGLY) {
+            return own ? 0 : 250 + i - TOLD_WRONGLY;
+        }
+        if (own) {
+            return 120;
+        }
+        return f % GROUP == i % GROUP ? 108 : 121;
     }
 
     private static void giveExamples(SignTeller x, PlainModel model) {
